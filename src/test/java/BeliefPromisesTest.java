@@ -20,6 +20,7 @@ public final class BeliefPromisesTest {
         promise21();
         promise22And23();
         promise24();
+        beliefOfOne();
         check.end("BeliefPromisesTest");
     }
 
@@ -317,5 +318,24 @@ public final class BeliefPromisesTest {
         check.due("24 down", z.promising(), 2);
         z.place(2);
         check.due("24 up", z.promising(), 0);
+    }
+
+    /** The least belief there can be counts like any other. */
+    private static void beliefOfOne() {
+        RoverLocator x = Maps.of(".b");
+        x.setSensor(0, 0, 1);
+        x.setSensor(1, 0, 100);
+        x.see(0);
+        x.see(0);
+        x.see(0);
+        same("18 nearly nothing", x, "1 999999");
+        x.move(0);
+        same("17 nearly nothing", x, "1 999999");
+        check.due("21 all but one", x.core(100), 2);
+        check.due("21 less", x.core(99), 1);
+        check.due("33 just below", x.expectedCost(0), 0);
+        x.setSensor(1, 0, 0);
+        check.due("18 a sum of 1 is no restart", x.see(0), false);
+        same("18 scaled", x, "1000000 0");
     }
 }

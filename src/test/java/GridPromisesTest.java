@@ -215,6 +215,7 @@ public final class GridPromisesTest {
         check.due("5 a wall", x.setWall(1, true), false);
         same("5 beliefs", Maps.beliefsOf(x), "333334 0 333333 333333");
         check.due("5 no steps", x.steps(0), 0);
+        check.due("5 no neighbor", x.motion(0, 0, 1), 16);
         check.due("5 rows begin anywhere", x.exact(0), 1);
         check.due("5 it is a wall already", x.setWall(1, true), true);
         check.due("5 free again", x.setWall(1, false), true);

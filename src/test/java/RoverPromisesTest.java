@@ -14,6 +14,7 @@ public final class RoverPromisesTest {
         promise39();
         promise40();
         promise40Each();
+        promise40Greatest();
         promise41And42();
         promise42Each();
         check.end("RoverPromisesTest");
@@ -90,6 +91,11 @@ public final class RoverPromisesTest {
         x.seed(1);
         x.setSensor(0, 1, 8);
         check.due("36 16838 % 78 = 68", x.sense(), 3);
+        x.seed(1);
+        x.setSensor(0, 0, 38);
+        x.setSensor(0, 1, 20);
+        x.setSensor(0, 2, 2);
+        check.due("36 38 below 100 again, not less than the first sum", x.sense(), 1);
         RoverLocator y = Maps.of(".b");
         y.carry(1);
         check.due("36 the mark of the rover's cell", y.sense(), 1);
@@ -217,10 +223,10 @@ public final class RoverPromisesTest {
     private static void promise40Each() {
         for (int kind = 0; kind < 17; kind++) {
             RoverLocator x = Maps.of(".b#/c..");
-            x.setSensor(0, 1, 9);
+            x.setMotion(9, 0, 3);
             x.place(4);
             x.save();
-            x.seed(4);
+            x.move(1);
             Maps.append(x, "../..");
             String before = stateOf(x);
             int changes = x.count(6);
@@ -230,6 +236,32 @@ public final class RoverPromisesTest {
             check.due("40 kind " + kind + " left", x.undo(), changes);
             check.due("40 kind " + kind + " is back", stateOf(x).equals(before), true);
         }
+    }
+
+    /** The last cells and steps of the greatest grid come back, too. */
+    private static void promise40Greatest() {
+        RoverLocator x = Maps.of("....../....../....../....../....../.....b");
+        for (int i = 0; i < 8; i++) {
+            x.see(1);
+        }
+        x.save();
+        x.setWall(34, true);
+        check.due("40 a wall beside the last cell", x.cell(35, 3), 1);
+        for (int i = 0; i < 8; i++) {
+            x.drive(1);
+        }
+        x.restore();
+        check.due("42 the last cell's neighbors", x.cell(35, 3), 2);
+        check.due("42 all steps' numbers", x.exact(35), 10000000000000000L);
+        check.due("42 the last step", x.step(7), 11);
+        check.due("42 a ninth step", x.see(1), false);
+        check.due("42 nine steps", x.steps(2), 9);
+        x.undo();
+        check.due("40 eight steps", x.pathWeight(), 10000000000000000L);
+        x.setWall(34, true);
+        x.undo();
+        check.due("40 the last cell's neighbors", x.cell(35, 3), 2);
+        check.due("40 all steps' numbers", x.exact(35), 10000000000000000L);
     }
 
     private static void change(RoverLocator x, int kind) {
@@ -259,12 +291,16 @@ public final class RoverPromisesTest {
         StringBuilder text = new StringBuilder(Maps.textOf(x) + " " + Maps.beliefsOf(x));
         for (int cell = 0; cell < x.count(0) * x.count(1); cell++) {
             text.append(' ').append(x.cell(cell, 2)).append(' ').append(x.exact(cell)).append(' ').append(x.ranked(cell));
+            text.append(' ').append(x.cell(cell, 3));
         }
         for (int what = 0; what < 5; what++) {
             text.append(' ').append(x.count(what));
         }
         for (int what = 0; what < 3; what++) {
             text.append(' ').append(x.steps(what));
+        }
+        for (int index = 0; index < x.steps(0); index++) {
+            text.append(' ').append(x.step(index));
         }
         text.append(' ').append(x.rover()).append(' ').append(x.pathWeight()).append(' ').append(x.motion(0, 1, 1));
         text.append(' ').append(x.seed(0)).append(x.undo() < 0);
@@ -308,15 +344,18 @@ public final class RoverPromisesTest {
     private static void promise42Each() {
         for (int kind = 0; kind < 16; kind++) {
             RoverLocator x = Maps.of(".b#/c..");
-            x.setSensor(0, 1, 9);
+            x.setMotion(9, 0, 3);
             x.carry(4);
             x.place(4);
+            x.move(1);
             x.seed(4);
             Maps.append(x, "../..");
             String before = stateOf(x);
             x.save();
             change(x, kind);
             x.setCost(0, 9);
+            x.spread();
+            x.see(0);
             x.restore();
             String after = stateOf(x);
             check.due("42 kind " + kind + " is back", after.equals(before), true);

@@ -211,6 +211,14 @@ public final class StepPromisesTest {
         paths("29 back", x, 160, 3, 3, 2);
         x.see(0);
         paths("29 seen", x, 16000, 3, 3, 2, 2);
+        RoverLocator z = Maps.of(".b");
+        z.setSensor(0, 0, 1);
+        z.see(0);
+        paths("29 the first cell", z, 1, 0, 0);
+        z.setSensor(1, 0, 1);
+        z.place(1);
+        z.see(0);
+        paths("29 seeing leads nowhere", z, 1, 1, 1);
         RoverLocator y = Maps.of(".b.");
         y.setMotion(8, 0, 0);
         y.place(0);
