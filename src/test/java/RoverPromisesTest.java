@@ -290,8 +290,8 @@ public final class RoverPromisesTest {
     private static String stateOf(RoverLocator x) {
         StringBuilder text = new StringBuilder(Maps.textOf(x) + " " + Maps.beliefsOf(x));
         for (int cell = 0; cell < x.count(0) * x.count(1); cell++) {
-            text.append(' ').append(x.cell(cell, 2)).append(' ').append(x.exact(cell)).append(' ').append(x.ranked(cell));
-            text.append(' ').append(x.cell(cell, 3));
+            text.append(' ').append(x.cell(cell, 2)).append(' ').append(x.cell(cell, 3));
+            text.append(' ').append(x.exact(cell)).append(' ').append(x.ranked(cell));
         }
         for (int what = 0; what < 5; what++) {
             text.append(' ').append(x.count(what));
