@@ -25,8 +25,7 @@ public final class BeliefPromisesTest {
     }
 
     private static void same(String what, RoverLocator x, String want) {
-        String got = Maps.beliefsOf(x);
-        check.due(what + " '" + got + "' is '" + want + "'", got.equals(want), true);
+        check.due(what, Maps.beliefsOf(x), want);
     }
 
     private static void promise15() {
@@ -227,6 +226,15 @@ public final class BeliefPromisesTest {
         x.place(2);
         ranks("20 placed", x, 2, 0, 1, 3);
         ranks("20 walls are last", Maps.of("#..#/..##"), 1, 2, 4, 5, 0, 3, 6, 7);
+        RoverLocator placed = Maps.of("#..#/..##");
+        placed.place(4);
+        ranks("20 walls as cells without belief", placed, 4, 0, 1, 2, 3, 5, 6, 7);
+        ranks("20 a single cell", Maps.of("."), 0);
+        RoverLocator great = Maps.of(Maps.free(6, 6));
+        great.place(35);
+        check.due("20 the last cell first", great.ranked(0), 35);
+        check.due("20 the first cell behind it", great.ranked(1), 0);
+        check.due("20 the last rank", great.ranked(35), 34);
         RoverLocator y = Maps.of("abcd");
         y.setSensor(0, 0, 10);
         y.setSensor(1, 0, 30);
@@ -253,6 +261,13 @@ public final class BeliefPromisesTest {
         check.due("21 thirds 100", y.core(100), 3);
         y.place(3);
         check.due("21 one", y.core(100), 1);
+        check.due("21 one for the least share", y.core(1), 1);
+        RoverLocator great = Maps.of(Maps.free(6, 6));
+        check.due("21 all of 36", great.core(100), 36);
+        check.due("21 all but one of 36", great.core(97), 35);
+        check.due("21 one of 36 for the least share", great.core(1), 1);
+        check.due("21 one of 36", great.core(2), 1);
+        check.due("21 two of 36", great.core(3), 2);
     }
 
     private static void bits(String what, RoverLocator x, double doubt, float share) {

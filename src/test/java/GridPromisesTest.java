@@ -8,30 +8,33 @@ public final class GridPromisesTest {
     public static void main(String[] args) {
         promise1();
         promise2();
+        promise2Bytes();
+        promise2Skipped();
+        promise2Full();
         promise3();
+        promise3Rover();
+        promise3Costs();
         promise4();
         promise4Texts();
         promise5();
         promise6();
         promise7();
         promise8();
+        promise8All();
         promise9();
         promise10And11();
         promise12();
         promise13();
         promise14();
+        promise14Again();
         check.end("GridPromisesTest");
-    }
-
-    private static void same(String what, String got, String want) {
-        check.due(what + " '" + got + "' is '" + want + "'", got.equals(want), true);
     }
 
     private static void promise1() {
         RoverLocator x = new RoverLocator();
-        same("1 beliefs", Maps.beliefsOf(x),
+        check.due("1 beliefs", Maps.beliefsOf(x),
             "83334 83334 83334 83334 83333 83333 83333 83333 83333 83333 83333 83333");
-        same("1 map", Maps.textOf(x), "..../..../....");
+        check.due("1 map", Maps.textOf(x), "..../..../....");
         check.due("1 width", x.count(0), 4);
         check.due("1 height", x.count(1), 3);
         for (int what = 3; what <= 6; what++) {
@@ -82,6 +85,58 @@ public final class GridPromisesTest {
         check.due("2 no change", y.count(6), 0);
     }
 
+    private static void promise2Bytes() {
+        for (int shift = 0; shift <= 24; shift += 8) {
+            for (int sign = 0; sign < 256; sign++) {
+                RoverLocator x = new RoverLocator();
+                int packed = sign << shift;
+                if (sign == 0 || sign >= 33 && sign <= 126) {
+                    check.due("2 the byte " + sign, x.append(packed), sign == 0 ? 0 : 1);
+                } else {
+                    check.fails("2 the byte " + sign, ARGUMENT, () -> x.append(packed));
+                    check.due("2 none of it", x.count(5), 0);
+                }
+            }
+        }
+    }
+
+    /** Bytes that are 0 are skipped, wherever they stand. */
+    private static void promise2Skipped() {
+        int[] bytes = {'.' << 24, 'b' << 16, 'c' << 8, 'd'};
+        for (int pattern = 1; pattern < 16; pattern++) {
+            int packed = 0;
+            StringBuilder text = new StringBuilder();
+            for (int i = 0; i < 4; i++) {
+                if ((pattern >> i & 1) == 1) {
+                    packed |= bytes[i];
+                    text.append(".bcd".charAt(i));
+                }
+            }
+            RoverLocator x = new RoverLocator();
+            check.due("2 characters of " + text, x.append(packed), text.length());
+            x.load();
+            check.due("2 the order of " + text, Maps.textOf(x), text.toString());
+        }
+    }
+
+    /** Only the characters count for the 45, not the bytes that are 0. */
+    private static void promise2Full() {
+        for (int filled = 40; filled <= 45; filled++) {
+            for (int pattern = 0; pattern < 16; pattern++) {
+                RoverLocator x = Maps.append(new RoverLocator(), "#".repeat(filled));
+                int packed = (pattern & 1) * 0x21 | (pattern >> 1 & 1) * 0x7e00 | (pattern >> 2 & 1) * 0x2f0000
+                    | (pattern >> 3) * 0x21000000;
+                int length = filled + Integer.bitCount(pattern);
+                if (length <= 45) {
+                    check.due("2 " + filled + " and " + pattern, x.append(packed), length);
+                } else {
+                    check.fails("2 " + filled + " and " + pattern, STATE, () -> x.append(packed));
+                    check.due("2 none of them", x.count(5), filled);
+                }
+            }
+        }
+    }
+
     private static void promise3() {
         RoverLocator x = new RoverLocator();
         x.setMotion(8, 4, 2);
@@ -94,8 +149,8 @@ public final class GridPromisesTest {
         x.move(1);
         Maps.append(x, "##a/bcd");
         check.due("3 free cells", x.load(), 4);
-        same("3 map", Maps.textOf(x), "##./bcd");
-        same("3 beliefs", Maps.beliefsOf(x), "0 0 250000 250000 250000 250000");
+        check.due("3 map", Maps.textOf(x), "##./bcd");
+        check.due("3 beliefs", Maps.beliefsOf(x), "0 0 250000 250000 250000 250000");
         check.due("3 buffer", x.count(5), 0);
         check.due("3 steps", x.steps(0), 0);
         check.due("3 rows begin anywhere", x.exact(5), 1);
@@ -124,6 +179,34 @@ public final class GridPromisesTest {
         check.due("3 the grid stays", y.count(2), 36);
         check.due("3 no change", y.count(6), 1);
         countsStay();
+    }
+
+    private static void promise3Rover() {
+        for (int free = 0; free < 36; free++) {
+            StringBuilder map = new StringBuilder(Maps.free(6, 6).replace('.', '#'));
+            map.setCharAt(free / 6 * 7 + free % 6, 'd');
+            RoverLocator x = Maps.append(new RoverLocator(), map.toString());
+            check.due("3 one free cell", x.load(), 1);
+            check.due("3 the rover is there", x.rover(), free);
+            check.due("3 and the whole belief", x.belief(free), 1000000);
+        }
+        RoverLocator y = new RoverLocator();
+        y.carry(11);
+        Maps.append(y, "..../..../....");
+        check.due("3 the same map", y.load(), 12);
+        check.due("3 the rover is in the lowest cell all the same", y.rover(), 0);
+    }
+
+    private static void promise3Costs() {
+        RoverLocator x = new RoverLocator();
+        for (int cell = 0; cell < 12; cell++) {
+            x.setCost(cell, 9);
+        }
+        Maps.append(x, Maps.free(6, 6));
+        x.load();
+        for (int cell = 0; cell < 36; cell++) {
+            check.due("3 the cost of " + cell, x.cell(cell, 2), 1);
+        }
     }
 
     private static void countsStay() {
@@ -213,7 +296,7 @@ public final class GridPromisesTest {
         check.due("5 the mark stays", x.cell(1, 1), 1);
         check.due("5 a change all the same", x.count(6), 5);
         check.due("5 a wall", x.setWall(1, true), false);
-        same("5 beliefs", Maps.beliefsOf(x), "333334 0 333333 333333");
+        check.due("5 beliefs", Maps.beliefsOf(x), "333334 0 333333 333333");
         check.due("5 no steps", x.steps(0), 0);
         check.due("5 no neighbor", x.motion(0, 0, 1), 16);
         check.due("5 rows begin anywhere", x.exact(0), 1);
@@ -221,7 +304,7 @@ public final class GridPromisesTest {
         check.due("5 free again", x.setWall(1, false), true);
         check.due("5 with mark 0", x.cell(1, 1), 0);
         check.due("5 with cost 1", x.cell(1, 2), 1);
-        same("5 beliefs again", Maps.beliefsOf(x), "250000 250000 250000 250000");
+        check.due("5 beliefs again", Maps.beliefsOf(x), "250000 250000 250000 250000");
         check.due("5 a neighbor again", x.motion(0, 1, 1), 16);
 
         RoverLocator y = Maps.of("#./##");
@@ -245,7 +328,7 @@ public final class GridPromisesTest {
         check.due("6 previous", x.setMark(1, 3), 1);
         check.due("6 set", x.cell(1, 1), 3);
         check.due("6 to 0", x.setMark(1, 0), 3);
-        same("6 the beliefs stay", Maps.beliefsOf(x), "0 0 1000000");
+        check.due("6 the beliefs stay", Maps.beliefsOf(x), "0 0 1000000");
         check.due("6 rows begin there still", x.exact(1), 0);
         check.due("6 changes", x.count(6), 4);
     }
@@ -280,6 +363,23 @@ public final class GridPromisesTest {
         check.due("8 unchanged", x.motion(5, 6, 1), 3);
         check.due("8 none", x.setMotion(0, 0, 0), 16);
         check.due("8 all", x.setMotion(0, 0, 16), 0);
+    }
+
+    private static void promise8All() {
+        for (int ahead = -1; ahead <= 17; ahead++) {
+            for (int left = -1; left <= 17; left++) {
+                RoverLocator x = new RoverLocator();
+                for (int right = -1; right <= 17; right++) {
+                    int stay = 16 - ahead - left - right;
+                    boolean fits = ahead >= 0 && left >= 0 && right >= 0 && stay >= 0;
+                    int a = ahead;
+                    int l = left;
+                    int r = right;
+                    check.due("8 " + a + " " + l + " " + r, Check.outcome(() -> x.setMotion(a, l, r)),
+                        fits ? "" + stay : "IllegalArgumentException");
+                }
+            }
+        }
     }
 
     private static void promise9() {
@@ -354,17 +454,26 @@ public final class GridPromisesTest {
 
     private static void promise14() {
         RoverLocator x = Maps.of("a#b/cd.");
-        same("14 text", Maps.textOf(x), ".#b/cd.");
+        check.due("14 text", Maps.textOf(x), ".#b/cd.");
         check.due("14 length", x.map(-1), 7);
         check.fails("14 -2", INDEX, () -> x.map(-2));
         check.fails("14 7", INDEX, () -> x.map(7));
         check.fails("14 far", INDEX, () -> x.map(Integer.MAX_VALUE));
         x.setMark(5, 3);
         x.setWall(3, true);
-        same("14 changed", Maps.textOf(x), ".#b/#dd");
-        same("14 one", Maps.textOf(Maps.of("d")), "d");
-        same("14 a column", Maps.textOf(Maps.of("a/#/c")), "./#/c");
+        check.due("14 changed", Maps.textOf(x), ".#b/#dd");
+        check.due("14 one", Maps.textOf(Maps.of("d")), "d");
+        check.due("14 a column", Maps.textOf(Maps.of("a/#/c")), "./#/c");
         String full = "abcd.#/....../#####a/bbbbbb/c#c#c#/dddddd";
-        same("14 full", Maps.textOf(Maps.of(full)), full.replace('a', '.'));
+        check.due("14 full", Maps.textOf(Maps.of(full)), full.replace('a', '.'));
+    }
+
+    /** As load reads it: the text of a map makes the same map. */
+    private static void promise14Again() {
+        for (String map : new String[] {".", "#b", "d/#", "b#c/.d#", "abcd.#/....../#####a/bbbbbb/c#c#c#/dddddd"}) {
+            String text = Maps.textOf(Maps.of(map));
+            check.due("14 length of " + map, text.length(), map.length());
+            check.due("14 again " + map, Maps.textOf(Maps.of(text)), text);
+        }
     }
 }

@@ -1,4 +1,4 @@
-/** Gives texts to a locator, four characters a call. */
+/** Gives texts to a locator, four characters a call, and reads texts from one. */
 final class Maps {
     private Maps() {
     }
@@ -24,9 +24,15 @@ final class Maps {
         return x;
     }
 
+    /** A map of free cells with mark 0. */
+    static String free(int width, int height) {
+        return (".".repeat(width) + "/").repeat(height).substring(0, height * (width + 1) - 1);
+    }
+
     static String textOf(RoverLocator x) {
         StringBuilder text = new StringBuilder();
-        for (int i = 0; i < x.map(-1); i++) {
+        int length = x.map(-1);
+        for (int i = 0; i < length; i++) {
             text.append((char) x.map(i));
         }
         return text.toString();
@@ -34,7 +40,8 @@ final class Maps {
 
     static String beliefsOf(RoverLocator x) {
         StringBuilder text = new StringBuilder();
-        for (int cell = 0; cell < x.count(0) * x.count(1); cell++) {
+        int cells = x.count(0) * x.count(1);
+        for (int cell = 0; cell < cells; cell++) {
             text.append(cell == 0 ? "" : " ").append(x.belief(cell));
         }
         return text.toString();

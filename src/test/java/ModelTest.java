@@ -31,17 +31,9 @@ public final class ModelTest {
         check.end("ModelTest");
     }
 
-    private static String outcome(LongSupplier call) {
-        try {
-            return Long.toString(call.getAsLong());
-        } catch (RuntimeException e) {
-            return e.getClass().getSimpleName();
-        }
-    }
-
     private static void same(String what, LongSupplier got, LongSupplier want) {
-        String a = outcome(got);
-        String b = outcome(want);
+        String a = Check.outcome(got);
+        String b = Check.outcome(want);
         check.due("run " + run + ": " + what, true, true);
         if (!a.equals(b)) {
             check.tell("run " + run + ": " + what + " answered " + a + ", the model " + b);

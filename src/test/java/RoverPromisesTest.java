@@ -125,6 +125,15 @@ public final class RoverPromisesTest {
         check.due("36 no number drawn", x.seed(9), 9);
         check.due("36 far from the rover", x.belief(1), 1000000);
         check.due("36 still no hit", x.count(4), 0);
+        for (int mark = 0; mark < 4; mark++) {
+            RoverLocator y = Maps.of("abcda".substring(mark, mark + 2));
+            y.setSensor(mark, mark, 0);
+            y.setSensor((mark + 1) % 4, mark, 1);
+            check.due("36 the mark itself where its sum is 0", y.sense(), mark);
+            check.due("36 z stays", y.seed(0), 1);
+            y.setSensor((mark + 1) % 4, mark, 0);
+            check.fails("36 not even that", STATE, () -> y.sense());
+        }
     }
 
     private static void promise37And38() {
@@ -228,13 +237,13 @@ public final class RoverPromisesTest {
             x.save();
             x.move(1);
             Maps.append(x, "../..");
-            String before = stateOf(x);
+            String before = Portrait.now(x);
             int changes = x.count(6);
             change(x, kind);
             check.due("40 kind " + kind + " counts", x.count(6), changes + 1);
-            check.due("40 kind " + kind + " is seen", stateOf(x).equals(before), false);
+            check.due("40 kind " + kind + " is seen", Portrait.now(x).equals(before), false);
             check.due("40 kind " + kind + " left", x.undo(), changes);
-            check.due("40 kind " + kind + " is back", stateOf(x).equals(before), true);
+            check.due("40 kind " + kind + " is back", Portrait.now(x), before);
         }
     }
 
@@ -286,32 +295,6 @@ public final class RoverPromisesTest {
         }
     }
 
-    /** All that can be asked without a lasting change; what was asked by a change is taken back. */
-    private static String stateOf(RoverLocator x) {
-        StringBuilder text = new StringBuilder(Maps.textOf(x) + " " + Maps.beliefsOf(x));
-        for (int cell = 0; cell < x.count(0) * x.count(1); cell++) {
-            text.append(' ').append(x.cell(cell, 2)).append(' ').append(x.cell(cell, 3));
-            text.append(' ').append(x.exact(cell)).append(' ').append(x.ranked(cell));
-        }
-        for (int what = 0; what < 5; what++) {
-            text.append(' ').append(x.count(what));
-        }
-        for (int what = 0; what < 3; what++) {
-            text.append(' ').append(x.steps(what));
-        }
-        for (int index = 0; index < x.steps(0); index++) {
-            text.append(' ').append(x.step(index));
-        }
-        text.append(' ').append(x.rover()).append(' ').append(x.pathWeight()).append(' ').append(x.motion(0, 1, 1));
-        text.append(' ').append(x.seed(0)).append(x.undo() < 0);
-        text.append(' ').append(x.setRate(0)).append(x.undo() < 0);
-        text.append(' ').append(x.setLimit(0)).append(x.undo() < 0);
-        for (int i = 0; i < 16; i++) {
-            text.append(' ').append(x.setSensor(i / 4, i % 4, 0)).append(x.undo() < 0);
-        }
-        return text.toString();
-    }
-
     private static void promise41And42() {
         RoverLocator x = Maps.of(".#b");
         check.fails("42 nothing saved", STATE, () -> x.restore());
@@ -350,15 +333,14 @@ public final class RoverPromisesTest {
             x.move(1);
             x.seed(4);
             Maps.append(x, "../..");
-            String before = stateOf(x);
+            String before = Portrait.now(x);
             x.save();
             change(x, kind);
             x.setCost(0, 9);
             x.spread();
             x.see(0);
             x.restore();
-            String after = stateOf(x);
-            check.due("42 kind " + kind + " is back", after.equals(before), true);
+            check.due("42 kind " + kind + " is back", Portrait.now(x), before);
         }
     }
 }
