@@ -333,6 +333,43 @@ public final class BeliefPromisesTest {
         check.due("24 down", z.promising(), 2);
         z.place(2);
         check.due("24 up", z.promising(), 0);
+        promise24Marks();
+        promise24Greatest();
+    }
+
+    /** Each of the four marks counts once, also the last one. */
+    private static void promise24Marks() {
+        for (int mark = 1; mark < 4; mark++) {
+            RoverLocator x = Maps.of(".#./.." + "abcd".charAt(mark));
+            x.place(4);
+            x.setSensor(0, 0, 40);
+            x.setSensor(mark, mark, 0);
+            check.due("24 nothing to be seen there", x.promising(), 0);
+            for (int seen = 0; seen < 4; seen++) {
+                x.setSensor(mark, seen, 10);
+            }
+            check.due("24 four tens are not more", x.promising(), 0);
+            x.setSensor(mark, 3, 11);
+            check.due("24 one more is", x.promising(), 1);
+        }
+        RoverLocator none = new RoverLocator();
+        none.setSensor(0, 0, 0);
+        check.due("24 nothing can be seen anywhere", none.promising(), 0);
+    }
+
+    private static void promise24Greatest() {
+        RoverLocator x = Maps.of("....../....../....../....../....b./.....d");
+        x.setSensor(0, 0, 50);
+        x.setSensor(1, 1, 0);
+        x.place(34);
+        check.due("24 right to the last cell", x.promising(), 1);
+        x.place(29);
+        check.due("24 down to the last cell", x.promising(), 2);
+        x.setSensor(1, 2, 51);
+        x.setSensor(1, 3, 50);
+        check.due("24 left to the other one", x.promising(), 3);
+        x.place(35);
+        check.due("24 where it stays", x.promising(), 1);
     }
 
     /** The least belief there can be counts like any other. */

@@ -130,7 +130,8 @@ public final class GridDescriptionTest {
 
     /** All motion goes ahead, so the one cell with motion weight 16 is the neighbor. */
     private static void goesTo(String what, RoverLocator x, int from, int direction, int want) {
-        for (int to = 0; to < x.count(0) * x.count(1); to++) {
+        int cells = x.count(0) * x.count(1);
+        for (int to = 0; to < cells; to++) {
             check.due(what + ", to " + to, x.motion(from, to, direction), to == want ? 16 : 0);
         }
         x.place(from);
@@ -166,8 +167,9 @@ public final class GridDescriptionTest {
     }
 
     private static int sumOfMotions(RoverLocator x, int from, int direction) {
+        int cells = x.count(0) * x.count(1);
         int sum = 0;
-        for (int to = 0; to < x.count(0) * x.count(1); to++) {
+        for (int to = 0; to < cells; to++) {
             sum += x.motion(from, to, direction);
         }
         return sum;

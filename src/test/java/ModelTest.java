@@ -1,10 +1,11 @@
 import java.util.Random;
 import java.util.function.LongSupplier;
 
-/** Random runs of calls, each answer compared with that of the model; the seeds are fixed. */
+/** Random runs of the calls that an object is good for, each answer compared with the model's; the seeds are fixed. */
 public final class ModelTest {
-    private static final int RUNS = 1500;
-    private static final int CALLS = 160;
+    private static final int RUNS = 3000;
+    private static final int CALLS = 240;
+    private static final int PROMISED_CALLS = 512;
     private static final String[] MAPS = {
         ".", "..", "./.", "b", "#.", "ab/cd", "...../.###./.#.#./.....", "....../....../....../....../....../......",
         "ab#cd./.#.#.#/dcba../#....#/.b.b.b/c.c.c.", "##/#d", "./#/./#/./b", "a.b.c.", "d/c/b/a/././.", "..#/...",
@@ -16,14 +17,16 @@ public final class ModelTest {
     private static RoverLocator x;
     private static Model m;
     private static int run;
+    private static int callsOfRun;
 
     public static void main(String[] args) {
         for (run = 0; run < RUNS; run++) {
             random = new Random(run);
             x = new RoverLocator();
             m = new Model();
+            callsOfRun = 0;
             prepare();
-            for (int call = 0; call < CALLS; call++) {
+            for (int call = any(0, CALLS); call > 0; call--) {
                 anyCall();
             }
             observeAll();
@@ -32,12 +35,11 @@ public final class ModelTest {
     }
 
     private static void same(String what, LongSupplier got, LongSupplier want) {
-        String a = Check.outcome(got);
-        String b = Check.outcome(want);
-        check.due("run " + run + ": " + what, true, true);
-        if (!a.equals(b)) {
-            check.tell("run " + run + ": " + what + " answered " + a + ", the model " + b);
+        if (callsOfRun == PROMISED_CALLS) {
+            return;
         }
+        callsOfRun++;
+        check.due("run " + run + ": " + what, Check.outcome(got), Check.outcome(want));
     }
 
     private static int any(int low, int high) {

@@ -19,6 +19,7 @@ public final class StepPromisesTest {
         promise29();
         promise29Zero();
         moreThanEight();
+        forgottenSteps();
         check.end("StepPromisesTest");
     }
 
@@ -174,6 +175,13 @@ public final class StepPromisesTest {
         }
         check.due("27 the greatest weight", x.exact(35), 10000000000000000L);
         check.due("30 the greatest weight", x.pathWeight(), 10000000000000000L);
+        check.due("28 the first of 36", x.likely(), 0);
+        check.due("29 the first of 36", x.path(8), 0);
+        x.place(35);
+        x.move(1);
+        x.see(1);
+        check.due("28 the last of 36", x.likely(), 35);
+        check.due("29 the last of 36", x.path(2), 35);
         x.spread();
         x.setMotion(16, 0, 0);
         for (int i = 0; i < 8; i++) {
@@ -265,5 +273,24 @@ public final class StepPromisesTest {
         x.move(1);
         x.spread();
         check.due("27 none", x.exact(1), 1);
+    }
+
+    /** Steps that are over leave nothing behind for the next ones. */
+    private static void forgottenSteps() {
+        RoverLocator x = new RoverLocator();
+        for (int i = 0; i < 8; i++) {
+            x.see(0);
+        }
+        x.spread();
+        RoverLocator fresh = new RoverLocator();
+        for (int i = 0; i < 8; i++) {
+            for (RoverLocator each : new RoverLocator[] {x, fresh}) {
+                each.setMotion(4 + i, 3, 2);
+                each.move(i % 3);
+            }
+            check.due("30 behind " + i, x.pathWeight(), fresh.pathWeight());
+            check.due("28 behind " + i, x.likely(), fresh.likely());
+            check.due("27 behind " + i, x.exact(11), fresh.exact(11));
+        }
     }
 }
