@@ -19,6 +19,7 @@ public final class BeliefPromisesTest {
         promise20();
         promise21();
         promise22And23();
+        promise22And23Uneven();
         promise24();
         beliefOfOne();
         check.end("BeliefPromisesTest");
@@ -309,6 +310,26 @@ public final class BeliefPromisesTest {
         bits("nearly sure", y, 1.0 - (low * low + high * high), y.belief(1) / 1000000.0f);
     }
 
+    /** Each belief is divided before it is squared, and the squares are added from the first cell on. */
+    private static void promise22And23Uneven() {
+        for (int i = 1; i <= 100; i++) {
+            RoverLocator x = Maps.of("abcd");
+            x.setSensor(0, 0, i);
+            x.setSensor(1, 0, 101 - i);
+            x.setSensor(2, 0, i * 37 % 101);
+            x.setSensor(3, 0, i * i % 101);
+            x.see(0);
+            double sum = 0.0;
+            int greatest = 0;
+            for (int cell = 0; cell < 4; cell++) {
+                double share = (double) x.belief(cell) / 1000000.0;
+                sum = sum + share * share;
+                greatest = Math.max(greatest, x.belief(cell));
+            }
+            bits("uneven " + i, x, 1.0 - sum, (float) greatest / 1000000.0f);
+        }
+    }
+
     private static void promise24() {
         RoverLocator x = Maps.of(".b");
         check.due("24 all the same", x.promising(), 0);
@@ -335,6 +356,29 @@ public final class BeliefPromisesTest {
         check.due("24 up", z.promising(), 0);
         promise24Marks();
         promise24Greatest();
+        promise24Limit();
+        promise24Scaled();
+    }
+
+    /** Staying as it is, neither mark reaches the limit, but both together promise as much as one that does. */
+    private static void promise24Limit() {
+        RoverLocator x = Maps.of(".b");
+        x.setLimit(60);
+        check.due("24 both below the limit", x.promising(), 0);
+        x.setLimit(0);
+        check.due("24 one of them never seen in the other cell", x.promising(), 0);
+    }
+
+    /** Up, the beliefs become 117187.5 and 882812.5, which are rounded to the whole; right, 15625 and 984375. */
+    private static void promise24Scaled() {
+        RoverLocator x = Maps.of(".b");
+        x.setMotion(14, 0, 1);
+        x.place(0);
+        x.move(1);
+        same("24 before", x, "125000 875000");
+        check.due("24 all promise the same", x.promising(), 0);
+        x.move(0);
+        same("24 up", x, "117188 882812");
     }
 
     /** Each of the four marks counts once, also the last one. */

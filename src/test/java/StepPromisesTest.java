@@ -166,6 +166,13 @@ public final class StepPromisesTest {
         x.setMark(2, 1);
         check.due("27 a restart", x.see(1), true);
         weights("27 a restart lets rows begin anywhere", x, 0, 0, 100);
+        RoverLocator y = Maps.of("...");
+        y.setMotion(8, 0, 0);
+        y.place(1);
+        y.drive(1);
+        weights("27 driven from one cell", y, 0, 8, 8);
+        y.sense();
+        weights("27 sensed there", y, 0, 800, 800);
     }
 
     private static void promise27Greatest() {
